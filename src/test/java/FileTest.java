@@ -368,6 +368,10 @@ public final class FileTest {
         }
         x.count(0, 40);
         x.count(3, 78);
+        x.about(40, 0, 1);
+        x.about(41, 0, Check.BAD);
+        x.hold("f40", 40);
+        x.release(40, 1);
         x.plain("g", Check.FULL);
         x.folder("g", Check.FULL);
         x.symlink("g", "t", Check.FULL);

@@ -11,6 +11,7 @@ public final class PathTest {
         wantsName();
         loops();
         longParts();
+        lastBytes();
         Check.end();
     }
 
@@ -302,6 +303,8 @@ public final class PathTest {
         x.symlink("w", target + "/", 3);
         x.follow("w", Check.LOOP);
         x.symlink("v", "v/".repeat(400), 4);
+        x.find("w/x", Check.LOOP);
+        x.find("v/x", Check.LOOP);
         x.follow("v", Check.LOOP);
         x.symlink("u", "../".repeat(332) + "f", 5);
         x.follow("u", 2);
@@ -310,6 +313,36 @@ public final class PathTest {
         x.follow("s", 2);
         x.symlink("q", "s", 8);
         x.follow("q", Check.LOOP);
+    }
+
+    /** Parts that end with the last byte that a tape or a target can have. */
+    private static void lastBytes() {
+        Check x = new Check("the last bytes");
+        x.fill(47, 1199, 1199);
+        x.plain("f", 2);
+        x.fill(47, 1199, 1199);
+        x.find("f", 2);
+        x.folder("d", 3);
+        x.tape("d");
+        x.fill(47, 1197, 1198);
+        x.find("..", 1);
+        x.fill(47, 1198, 1198);
+        x.plain("..", Check.BAD);
+        x.fill(47, 1199, 1199);
+        x.find(".", 1);
+        x.symlink("d/l", "/".repeat(999) + "f", 4);
+        x.symlink("d/k", "." + "/".repeat(997) + "..", 5);
+        x.symlink("d/j", "/".repeat(999) + ".", 6);
+        x.follow("d/l", 2);
+        x.follow("d/k", 1);
+        x.follow("d/j", 1);
+        x.find("d/k/f", 2);
+        // What stands behind the end of a shorter tape or target is no part of it.
+        x.find("/".repeat(100) + "zzz", Check.NONE);
+        x.find("/".repeat(100) + "f", 2);
+        x.remove("d/l", 4);
+        x.symlink("d/l", "/d", 4);
+        x.follow("d/l", 3);
     }
 
     private static void longParts() {

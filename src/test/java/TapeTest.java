@@ -33,6 +33,7 @@ public final class TapeTest {
         full.plain("g", 20);
         full.plain("h", 21);
         full.plain("i", Check.FULL);
+        full.link("h", "i", Check.FULL);
         full.count(3, 40);
     }
 
