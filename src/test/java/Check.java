@@ -13,10 +13,14 @@ final class Check {
     static final int LONG = -9;
     static final int INSIDE = -10;
 
+    /** What an object answers behind its 512th call is free, so no test goes beyond it. */
+    private static final int MOST_CALLS = 512;
+
     private static int wrong = 0;
 
     final NameTree tree = new NameTree();
     private final String title;
+    private int calls = 0;
 
     Check(String title) {
         this.title = title;
@@ -31,23 +35,113 @@ final class Check {
     }
 
     void due(String call, int got, int want) {
+        countCall();
         if (got != want) {
-            wrong++;
-            System.out.println(title + ": " + call + " answered " + got + ", due is " + want);
+            tellWrong(call + " answered " + got + ", due is " + want);
         }
     }
 
-    /** Puts a text on the tape, eight bytes a call. */
+    /** For answers that are no call's own. */
+    void same(String what, String got, String want) {
+        if (!got.equals(want)) {
+            tellWrong(what + " was " + want + " and is " + got);
+        }
+    }
+
+    private void countCall() {
+        calls++;
+        if (calls == MOST_CALLS + 1) {
+            tellWrong("the test makes more than " + MOST_CALLS + " calls of one object");
+        }
+    }
+
+    private void tellWrong(String text) {
+        wrong++;
+        System.out.println(shortened(title) + ": " + shortened(text));
+    }
+
+    /** Paths of a thousand bytes tell no more by their middle. */
+    private static String shortened(String text) {
+        return text.length() <= 300 ? text
+                : text.substring(0, 150) + " .. " + text.substring(text.length() - 150);
+    }
+
+    /** Puts a text on the tape by few calls: long rows of one byte by fill, the rest by type. */
     void tape(String text) {
         byte[] bytes = text.getBytes(StandardCharsets.ISO_8859_1);
-        for (int from = 0; from < bytes.length; from += 8) {
-            int n = Math.min(8, bytes.length - from);
-            long characters = 0;
-            for (int i = 0; i < n; i++) {
-                characters = characters << 8 | bytes[from + i] & 255;
+        countCall();
+        int length = tree.count(2);
+        int from = 0;
+        while (from < bytes.length) {
+            int same = sameFrom(bytes, from);
+            int n = same > 8 ? same : Math.min(8, bytes.length - from);
+            length += n;
+            if (same > 8) {
+                due("fill for " + text, tree.fill(bytes[from] & 255, n), length);
+            } else {
+                due("type " + text, tree.type(charactersOf(bytes, from, n), n), length);
             }
-            int before = tree.count(2);
-            due("type " + text, tree.type(characters, n), before + n);
+            from += n;
+        }
+    }
+
+    private static int sameFrom(byte[] bytes, int from) {
+        int same = 1;
+        while (from + same < bytes.length && bytes[from + same] == bytes[from]) {
+            same++;
+        }
+        return same;
+    }
+
+    private static long charactersOf(byte[] bytes, int from, int n) {
+        long characters = 0;
+        for (int i = 0; i < n; i++) {
+            characters = characters << 8 | bytes[from + i] & 255;
+        }
+        return characters;
+    }
+
+    /** All that can be asked of the files that are there, and of the tape, as one text. */
+    String state() {
+        StringBuilder state = new StringBuilder();
+        for (int what = 0; what < 4; what++) {
+            state.append(ask(tree.count(what))).append(' ');
+        }
+        for (int file = 1; file <= 40; file++) {
+            int kind = ask(tree.about(file, 0));
+            if (kind == BAD) {
+                continue;
+            }
+            state.append("| ").append(file).append(": ").append(kind);
+            for (int what = 1; what < 5; what++) {
+                state.append(' ').append(ask(tree.about(file, what)));
+            }
+            state.append(' ').append(ask(tree.targetByte(file, 0)));
+        }
+        return state.toString();
+    }
+
+    private int ask(int answer) {
+        countCall();
+        return answer;
+    }
+
+    /** The calls that read the tape, each by a number below READERS. */
+    static final int READERS = 11;
+
+    int read(int reader) {
+        switch (reader) {
+            case 0: return tree.make(1);
+            case 1: return tree.make(2);
+            case 2: return tree.make(3);
+            case 3: return tree.link();
+            case 4: return tree.symlink();
+            case 5: return tree.rename();
+            case 6: return tree.remove();
+            case 7: return tree.removeFolder();
+            case 8: return tree.find(false);
+            case 9: return tree.find(true);
+            default: return tree.hold();
         }
     }
 

@@ -53,7 +53,8 @@ public final class ModelTest {
     }
 
     private void go() {
-        while (calls < CALLS - 12) {
+        // One turn, with its paths, and the last looks stay far below what is left.
+        while (calls < CALLS - 60) {
             mixedCall();
             if (pick(4) == 0) {
                 int file = pick(20) == 0 ? edge() : 1 + pick(12);
