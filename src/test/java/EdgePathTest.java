@@ -32,6 +32,7 @@ public final class EdgePathTest {
         answersPartByPart();
         fortyLinks();
         fortyLinksInLinks();
+        fortyLinksWithRests();
         fortyLinksAndTheLast();
         endlessLinks();
         fortyLinksForEachPath();
@@ -616,6 +617,47 @@ public final class EdgePathTest {
         x.symlink("b", "l39/l7", 40);
         x.find("b", 40);
         x.follow("b", Check.LOOP);
+    }
+
+    /** Forty links in links, behind each of which a part is still to come. */
+    private static void fortyLinksWithRests() {
+        Check x = new Check("The 41st link, while parts of all the others are still to come");
+        x.room(200, 199);
+        x.plain("f", 2);
+        x.folder("p", 3);
+        x.folder("q", 4);
+        x.symlink("p/z", "../q/a/..", 5);
+        x.symlink("q/z", "..", 6);
+        // From a to s: nineteen links, each with a name in both folders, each leading through the next one.
+        for (char c = 'a'; c <= 's'; c++) {
+            int file = c - 'a' + 7;
+            x.symlink("p/" + c, (c == 's' ? "z" : String.valueOf((char) (c + 1))) + "/..", file);
+            x.link("p/" + c, "q/" + c, file);
+        }
+        x.find("p/a/f", 2);
+        x.follow("p/a", 1);
+        x.hold("p/a/f", 2);
+        x.plain("p/a/g", 26);
+        x.find("g", 26);
+        x.symlink("l", "p/a/f", 27);
+        x.follow("l", Check.LOOP);
+        x.symlink("k", "p/b/f", 28);
+        x.follow("k", 2);
+        x.symlink("q/y", ".", 29);
+        x.follow("p/b/q/y", 4);
+        x.follow("p/a/q/y", Check.LOOP);
+        x.find("p/a/q/y", 29);
+        // The parts of the fortieth target count, too.
+        x.remove("q/z", 6);
+        x.symlink("q/z", "y/../f", 6);
+        x.find("p/b/f", Check.NOT_FOLDER);
+        x.find("p/a/f", Check.LOOP);
+        x.remove("q/z", 6);
+        x.symlink("q/z", "none", 6);
+        x.find("p/a/f", Check.NONE);
+        x.remove("q/z", 6);
+        x.symlink("q/z", MORE, 6);
+        x.find("p/a/f", Check.LONG);
     }
 
     private static void endlessLinks() {
